@@ -647,22 +647,29 @@ public final class SleepMint {
      * The best life of one person. How he is at an hour is how tired he is and how long he slept; hours of sleep beyond
      * those that make the next one deep are all alike. Rest is never part of the first best life: work in its place
      * leaves him as rich and no less tired, so all that follows can be done too, and work is ahead of rest.
+     *
+     * Up to his last debt the hours are gone through forwards for the most that he can have at the end, then backwards
+     * for what he needs to get there; behind it a table of what can be earned tells, which all lives of a town share.
      */
     private static final class LifePlan {
-        private static final int STATES = (MOST_TIRED + 1) * MOST_DEEP;
+        private static final int TABLE_SIZE = (MOST_LIFE + 1) * (MOST_TIRED + 1) * MOST_DEEP;
 
-        // First the most that he can have in each state, NONE where he cannot be; then what he needs there at least.
-        // They are made for the first life that is asked for: many an object is never asked.
-        private int[] layers = new int[0];
+        // The two tables are made for the first life that is asked for: many an object is never asked.
+        // By hour and state: first the most that he can have, NONE where he cannot be; then what he needs at least.
+        private int[] purses = new int[0];
+        // By hours left and state.
+        private int[] earnings = new int[0];
+        private int earningsKnown = 0;
         private final int[] owed = new int[MOST_LIFE];
         final int[] acts = new int[MOST_LIFE];
         int most = NONE;
         private int person = NONE;
         private int length, hours, tired, sleep, purse;
-        private int deep, gain, width;
+        private int deep, gain, width, hoursWithDebts;
 
         void forget() {
             person = NONE;
+            earningsKnown = 0;
         }
 
         void make(Town town, Moment now, int p, int n) {
@@ -673,10 +680,7 @@ public final class SleepMint {
             tired = now.tired[p];
             sleep = now.sleep[p];
             purse = now.purse[p];
-            deep = town.deep;
-            gain = town.gain;
-            width = (MOST_TIRED + 1) * deep;
-            if (layers.length == 0) layers = new int[(MOST_LIFE + 1) * STATES];
+            prepareTables(town);
             countOwed(town);
             spread();
             most = mostAtEnd();
@@ -690,16 +694,74 @@ public final class SleepMint {
                 && sleep == now.sleep[p] && purse == now.purse[p];
         }
 
+        private void prepareTables(Town town) {
+            deep = town.deep;
+            gain = town.gain;
+            width = (MOST_TIRED + 1) * deep;
+            if (purses.length == 0) {
+                purses = new int[TABLE_SIZE];
+                earnings = new int[TABLE_SIZE];
+            }
+            // With no hour left nothing is earned; states of an earlier town stood otherwise in the table.
+            if (earningsKnown == 0) Arrays.fill(earnings, 0, width, 0);
+            while (earningsKnown < length) {
+                earningsKnown++;
+                learnEarnings(earningsKnown);
+            }
+        }
+
+        /** By those of one hour less. */
+        private void learnEarnings(int left) {
+            for (int t = 0; t <= MOST_TIRED; t++) {
+                int atWork = earnings[placeAtWork(left - 1, t)];
+                for (int s = 0; s < deep; s++) {
+                    int asleep = t > 0 ? earned(s) + earnings[placeAsleep(left - 1, t, s)] : 0;
+                    earnings[place(left, t, s)] = Math.max(atWork, asleep);
+                }
+            }
+        }
+
         private void countOwed(Town town) {
             Arrays.fill(owed, 0);
+            hoursWithDebts = 0;
             for (int d = 0; d < town.debtCount; d++) {
                 int k = town.debtHour[d] - hours;
-                if (town.debtor[d] == person && isWithin(k, 0, MOST_LIFE - 1)) owed[k] += town.debtValue[d];
+                if (town.debtor[d] != person || !isWithin(k, 0, length - 1)) continue;
+                owed[k] += town.debtValue[d];
+                hoursWithDebts = Math.max(hoursWithDebts, k + 1);
             }
         }
 
         private int place(int k, int t, int s) {
             return k * width + t * deep + s;
+        }
+
+        private int placeAsleep(int k, int t, int s) {
+            return place(k, easedBySleep(t), longerSleep(s));
+        }
+
+        private int placeAtWork(int k, int t) {
+            return place(k, tiredByWork(t), 0);
+        }
+
+        private static int easedBySleep(int t) {
+            return Math.max(t - SLEEP_EASES, 0);
+        }
+
+        private static int tiredByWork(int t) {
+            return Math.min(t + WORK_TIRES, MOST_TIRED);
+        }
+
+        private int longerSleep(int s) {
+            return Math.min(s + 1, deep - 1);
+        }
+
+        private int earned(int s) {
+            return s + 1 >= deep ? gain : 1;
+        }
+
+        private int purseAsleep(int k, int s, int q) {
+            return Math.min(q + earned(s), MOST_PURSE) - owed[k];
         }
 
         private int leastTired(int k) {
@@ -710,26 +772,10 @@ public final class SleepMint {
             return Math.min(tired + WORK_TIRES * k, MOST_TIRED);
         }
 
-        private int placeAsleep(int k, int t, int s) {
-            return place(k + 1, Math.max(t - SLEEP_EASES, 0), Math.min(s + 1, deep - 1));
-        }
-
-        private int placeAtWork(int k, int t) {
-            return place(k + 1, Math.min(t + WORK_TIRES, MOST_TIRED), 0);
-        }
-
-        private int purseAsleep(int k, int s, int q) {
-            return Math.min(q + earned(s), MOST_PURSE) - owed[k];
-        }
-
-        private int earned(int s) {
-            return s + 1 >= deep ? gain : 1;
-        }
-
         private void spread() {
-            Arrays.fill(layers, 0, (length + 1) * width, NONE);
-            layers[place(0, tired, Math.min(sleep, deep - 1))] = purse;
-            for (int k = 0; k < length; k++) {
+            Arrays.fill(purses, 0, (hoursWithDebts + 1) * width, NONE);
+            purses[place(0, tired, Math.min(sleep, deep - 1))] = purse;
+            for (int k = 0; k < hoursWithDebts; k++) {
                 spreadHour(k, mostTired(k));
             }
         }
@@ -738,32 +784,32 @@ public final class SleepMint {
             for (int t = leastTired(k); t <= highest; t++) {
                 int first = place(k, t, 0);
                 for (int s = 0; s < deep; s++) {
-                    int q = layers[first + s];
+                    int q = purses[first + s];
                     if (q == NONE) continue;
-                    if (t > 0) offer(placeAsleep(k, t, s), purseAsleep(k, s, q));
-                    offer(placeAtWork(k, t), q - owed[k]);
+                    if (t > 0) offer(placeAsleep(k + 1, t, s), purseAsleep(k, s, q));
+                    offer(placeAtWork(k + 1, t), q - owed[k]);
                 }
             }
         }
 
         private void offer(int place, int q) {
             // A purse below 0 is a debt that fell short; it never beats NONE.
-            if (q > layers[place]) layers[place] = q;
+            if (q > purses[place]) purses[place] = q;
         }
 
         private int mostAtEnd() {
             int best = NONE;
-            for (int i = length * width; i < (length + 1) * width; i++) {
-                best = Math.max(best, layers[i]);
+            int first = hoursWithDebts * width;
+            int firstLeft = (length - hoursWithDebts) * width;
+            for (int state = 0; state < width; state++) {
+                int q = purses[first + state];
+                if (q != NONE) best = Math.max(best, Math.min(q + earnings[firstLeft + state], MOST_PURSE));
             }
             return best;
         }
 
         private void turnToNeeds() {
-            for (int i = length * width; i < (length + 1) * width; i++) {
-                if (layers[i] != NONE) layers[i] = most;
-            }
-            for (int k = length - 1; k >= 0; k--) {
+            for (int k = hoursWithDebts - 1; k >= 0; k--) {
                 turnHourToNeeds(k, mostTired(k));
             }
         }
@@ -772,16 +818,22 @@ public final class SleepMint {
             for (int t = leastTired(k); t <= highest; t++) {
                 int first = place(k, t, 0);
                 for (int s = 0; s < deep; s++) {
-                    if (layers[first + s] != NONE) layers[first + s] = needOf(k, t, s);
+                    if (purses[first + s] != NONE) purses[first + s] = needOf(k, t, s);
                 }
             }
         }
 
         private int needOf(int k, int t, int s) {
-            int atWork = needBefore(k, layers[placeAtWork(k, t)], 0);
-            int asleep = t > 0 ? needBefore(k, layers[placeAsleep(k, t, s)], earned(s)) : NONE;
+            int atWork = needBefore(k, needAt(k + 1, tiredByWork(t), 0), 0);
+            if (t == 0) return atWork;
+            int asleep = needBefore(k, needAt(k + 1, easedBySleep(t), longerSleep(s)), earned(s));
             if (atWork == NONE) return asleep;
             return asleep == NONE ? atWork : Math.min(atWork, asleep);
+        }
+
+        private int needAt(int k, int t, int s) {
+            if (k < hoursWithDebts) return purses[place(k, t, s)];
+            return Math.max(most - earnings[place(length - k, t, s)], 0);
         }
 
         private int needBefore(int k, int need, int earned) {
@@ -794,16 +846,16 @@ public final class SleepMint {
             int s = Math.min(sleep, deep - 1);
             int q = purse;
             for (int k = 0; k < length; k++) {
-                int need = t > 0 ? layers[placeAsleep(k, t, s)] : NONE;
+                int need = t > 0 ? needAt(k + 1, easedBySleep(t), longerSleep(s)) : NONE;
                 if (need != NONE && purseAsleep(k, s, q) >= need) {
                     acts[k] = SLEEPS;
                     q = purseAsleep(k, s, q);
-                    t = Math.max(t - SLEEP_EASES, 0);
-                    s = Math.min(s + 1, deep - 1);
+                    t = easedBySleep(t);
+                    s = longerSleep(s);
                 } else {
                     acts[k] = WORKS;
                     q -= owed[k];
-                    t = Math.min(t + WORK_TIRES, MOST_TIRED);
+                    t = tiredByWork(t);
                     s = 0;
                 }
             }
