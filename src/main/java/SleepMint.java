@@ -809,7 +809,8 @@ public final class SleepMint {
         }
 
         private void turnToNeeds() {
-            for (int k = hoursWithDebts - 1; k >= 0; k--) {
+            // What he needs now, at hour 0, is not asked: that he has enough is known.
+            for (int k = hoursWithDebts - 1; k > 0; k--) {
                 turnHourToNeeds(k, mostTired(k));
             }
         }

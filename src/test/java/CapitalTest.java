@@ -7,6 +7,7 @@ public final class CapitalTest {
     public static void main(String[] args) {
         newObject();
         feeding();
+        fullTexts();
         goodTexts();
         clausesAtTheirBounds();
         blanks();
@@ -50,6 +51,15 @@ public final class CapitalTest {
         Check.due("capital()", x.capital(), -11);
         Check.due("told(6) behind capital()", x.told(6), 0);
         Check.due("feed(109) behind capital()", x.feed(109), 1);
+    }
+
+    private static void fullTexts() {
+        good("m1 2 1;" + " ".repeat(243), 0);
+        bad("m1 2 1;" + " ".repeat(242) + "c", 1, 250);
+        bad("m1 2 1;" + " ".repeat(241) + "c5", 1, 250);
+        bad("m1 2 1;" + " ".repeat(237) + "p0 0 z", 1, 250);
+        // The 251st letter was refused, so the clause has no end.
+        bad("m1 2 1;" + " ".repeat(241) + "c5;", 1, 250);
     }
 
     private static void goodTexts() {
@@ -139,6 +149,8 @@ public final class CapitalTest {
     private static void badNumbers() {
         bad("m1234 2 1;", 2, 1);
         bad("m0001 2 1;", 2, 1);
+        bad("m1 2 1;p0001 0 " + Z + ";", 2, 8);
+        bad("m1 2 1;p0 0000 " + Z + ";", 2, 10);
         bad("m1 2 1;c99999999999999;", 2, 8);
         bad("m1 2 1;c4294967298;", 2, 8);
         bad("m1 2 1;d0 0 1;", 2, 8);

@@ -13,6 +13,10 @@ public final class LifeTest {
         sleepGoesOn();
         rowsAndBedsDoNotCount();
         otherStateOtherLife();
+        otherHourOtherLife();
+        otherTirednessOtherLife();
+        otherSleepOtherLife();
+        longestLifeAndDeepestSleep();
         atTheMostInAPurse();
         heldAgainstAllWays();
         Check.end();
@@ -67,6 +71,8 @@ public final class LifeTest {
         does(x, 0, 0, "z");
         does(x, 0, 1, "zz");
         does(x, 0, 2, "zzwzw");
+        // All that is earned is owed at once.
+        does(Check.town("m1 9 1;p30 0 " + R + ";d0 0 1;d0 1 1;d0 2 1;"), 0, 0, "zzz");
         // Two debts of one hour are called together.
         does(Check.town("m1 2 5;p30 0 " + R + ";d0 1 3;d0 1 3;"), 0, 0, "zz");
         SleepMint others = Check.town("m1 2 5;p30 0 " + R + ";p30 0 " + R + ";d1 0 9;");
@@ -116,6 +122,52 @@ public final class LifeTest {
         Check.due("life(0, 2, -1) of a third town", x.life(0, 2, -1), 9);
         Check.tell(x, "m1 9 5;p60 7 " + R + ";d0 0 9;");
         Check.due("life(0, 2, -1) of a fourth town", x.life(0, 2, -1), Check.NONE);
+    }
+
+    private static void otherHourOtherLife() {
+        SleepMint x = Check.town("m1 2 9;p60 5 " + Check.WORKS_ALL_DAY + ";d0 21 9;");
+        x.hour(20);
+        Check.due("life(0, 1, -1) at 20", x.life(0, 1, -1), 6);
+        x.hour(1);
+        Check.due("life(0, 1, -1) at 21", x.life(0, 1, -1), Check.NONE);
+    }
+
+    private static void otherTirednessOtherLife() {
+        SleepMint x = Check.town("m1 2 9;p2 0 " + Check.WORKS_ALL_DAY + ";");
+        x.keep(0);
+        x.hour(1);
+        Check.due("life(0, 2, -1) of one who worked", x.life(0, 2, -1), 10);
+        x.goBack(0);
+        x.change(0, 0, 2);
+        x.hour(1);
+        Check.due("life(0, 2, -1) of one who rested", x.life(0, 2, -1), 1);
+    }
+
+    private static void otherSleepOtherLife() {
+        SleepMint x = Check.town("m1 2 9;p30 0 zw" + R.substring(2) + ";");
+        x.keep(0);
+        x.hour(2);
+        Check.due("life(0, 1, -1) of one who woke", x.life(0, 1, -1), 2);
+        x.goBack(0);
+        x.change(0, 0, 1);
+        x.change(0, 1, 0);
+        x.hour(2);
+        Check.due("life(0, 1, -1) of one who sleeps", x.life(0, 1, -1), 10);
+    }
+
+    private static void longestLifeAndDeepestSleep() {
+        String text = "m1 9 9;p60 0 " + R + ";d0 47 1;";
+        SleepMint x = Check.town(text);
+        PlainModel m = new PlainModel();
+        for (int i = 0; i < text.length(); i++) m.feed(text.charAt(i));
+        m.capital();
+        Check.due("life(0, 48, -1)", x.life(0, 48, -1), m.life(0, 48, -1));
+        for (int i = 0; i < 48; i += 5) Check.due("life(0, 48, " + i + ")", x.life(0, 48, i), m.life(0, 48, i));
+        // The last hours of a longer life, of which all are before the last debt.
+        x.hour(24);
+        m.hour(24);
+        Check.due("life(0, 24, -1)", x.life(0, 24, -1), m.life(0, 24, -1));
+        Check.due("life(0, 24, 23)", x.life(0, 24, 23), m.life(0, 24, 23));
     }
 
     private static void atTheMostInAPurse() {

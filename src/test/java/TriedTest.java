@@ -122,7 +122,10 @@ public final class TriedTest {
         Check.due("coins(5, -2)", x.coins(5, -2), Check.OUTSIDE);
         Check.due("coins(5, 61)", x.coins(5, 61), Check.OUTSIDE);
         Check.due("coins(5, 60)", x.coins(5, 60), 0);
+        Check.tell(x, "m1 2 1;c60;");
+        Check.due("coins(60, 60)", x.coins(60, 60), 1);
         Check.tell(x, "m1 2 1;c9;");
+        Check.due("coins(60, 60) of other coins", x.coins(60, 60), 0);
         Check.due("coins(20, 20) of other coins", x.coins(20, 20), 0);
         Check.due("coins(20, 9) of other coins", x.coins(20, 9), 2);
         x.capital();
@@ -148,9 +151,12 @@ public final class TriedTest {
         Check.due("strike(1)", x.strike(1), 409);
         Check.due("strike(2)", x.strike(2), Check.OUTSIDE);
         Check.due("strike(-1)", x.strike(-1), Check.OUTSIDE);
+        Check.tell(x, "m1 2 1;c12;c9;c30;c45;");
+        Check.due("strike(0)", x.strike(0), 2);
+        Check.due("strike(1)", x.strike(1), 161);
         // With 8 told another one must be struck.
         PlainModel m = new PlainModel();
-        String[] texts = {"m1 2 1;c8;", "m1 2 1;c2;c3;", "m1 2 1;c60;c59;c58;c57;"};
+        String[] texts = {"m1 2 1;c8;", "m1 2 1;c2;c3;", "m1 2 1;c6;c16;c20;c9;", "m1 2 1;c60;c59;c58;c57;"};
         for (String text : texts) {
             Check.tell(x, text);
             for (int i = 0; i < text.length(); i++) m.feed(text.charAt(i));
