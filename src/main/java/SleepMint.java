@@ -702,11 +702,17 @@ public final class SleepMint {
                 purses = new int[TABLE_SIZE];
                 earnings = new int[TABLE_SIZE];
             }
-            // With no hour left nothing is earned; states of an earlier town stood otherwise in the table.
-            if (earningsKnown == 0) Arrays.fill(earnings, 0, width, 0);
+            if (earningsKnown == 0) clearLastEarnings();
             while (earningsKnown < length) {
                 earningsKnown++;
                 learnEarnings(earningsKnown);
+            }
+        }
+
+        /** With no hour left nothing is earned; an earlier town may have had other states at these places. */
+        private void clearLastEarnings() {
+            for (int state = 0; state < width; state++) {
+                earnings[state] = 0;
             }
         }
 
@@ -773,10 +779,20 @@ public final class SleepMint {
         }
 
         private void spread() {
-            Arrays.fill(purses, 0, (hoursWithDebts + 1) * width, NONE);
+            for (int k = 0; k <= hoursWithDebts; k++) {
+                clearHour(k);
+            }
             purses[place(0, tired, Math.min(sleep, deep - 1))] = purse;
             for (int k = 0; k < hoursWithDebts; k++) {
                 spreadHour(k, mostTired(k));
+            }
+        }
+
+        /** Clears what he can come to at hour k; nothing else of it is looked at. */
+        private void clearHour(int k) {
+            int last = place(k, mostTired(k), deep - 1);
+            for (int state = place(k, leastTired(k), 0); state <= last; state++) {
+                purses[state] = NONE;
             }
         }
 
@@ -799,11 +815,13 @@ public final class SleepMint {
 
         private int mostAtEnd() {
             int best = NONE;
-            int first = hoursWithDebts * width;
-            int firstLeft = (length - hoursWithDebts) * width;
-            for (int state = 0; state < width; state++) {
-                int q = purses[first + state];
-                if (q != NONE) best = Math.max(best, Math.min(q + earnings[firstLeft + state], MOST_PURSE));
+            int left = length - hoursWithDebts;
+            int highest = mostTired(hoursWithDebts);
+            for (int t = leastTired(hoursWithDebts); t <= highest; t++) {
+                for (int s = 0; s < deep; s++) {
+                    int q = purses[place(hoursWithDebts, t, s)];
+                    if (q != NONE) best = Math.max(best, Math.min(q + earnings[place(left, t, s)], MOST_PURSE));
+                }
             }
             return best;
         }
