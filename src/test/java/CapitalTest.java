@@ -54,12 +54,12 @@ public final class CapitalTest {
     }
 
     private static void fullTexts() {
-        good("m1 2 1;" + " ".repeat(243), 0);
-        bad("m1 2 1;" + " ".repeat(242) + "c", 1, 250);
-        bad("m1 2 1;" + " ".repeat(241) + "c5", 1, 250);
-        bad("m1 2 1;" + " ".repeat(237) + "p0 0 z", 1, 250);
+        Check.good("m1 2 1;" + " ".repeat(243), 0);
+        Check.bad("m1 2 1;" + " ".repeat(242) + "c", 1, 250);
+        Check.bad("m1 2 1;" + " ".repeat(241) + "c5", 1, 250);
+        Check.bad("m1 2 1;" + " ".repeat(237) + "p0 0 z", 1, 250);
         // The 251st letter was refused, so the clause has no end.
-        bad("m1 2 1;" + " ".repeat(241) + "c5;", 1, 250);
+        Check.bad("m1 2 1;" + " ".repeat(241) + "c5;", 1, 250);
     }
 
     private static void goodTexts() {
@@ -72,120 +72,108 @@ public final class CapitalTest {
         Check.due("fault()", x.fault(), Check.NONE);
     }
 
-    private static void good(String text, int people) {
-        SleepMint x = new SleepMint();
-        Check.due("capital() of " + text, Check.tell(x, text), people);
-        Check.due("fault() of " + text, x.fault(), Check.NONE);
-    }
-
-    private static void bad(String text, int kind, int place) {
-        SleepMint x = new SleepMint();
-        Check.due("capital() of " + text, Check.tell(x, text), -10 - kind);
-        Check.due("fault() of " + text, x.fault(), place);
-    }
-
     private static void clausesAtTheirBounds() {
-        good("m1 2 1;", 0);
-        good("m5 9 9;", 0);
-        good("m005 009 009;", 0);
-        bad("m0 2 1;", 2, 1);
-        bad("m6 2 1;", 2, 1);
-        bad("m1 1 1;", 2, 3);
-        bad("m1 10 1;", 2, 3);
-        bad("m1 2 0;", 2, 5);
-        bad("m1 2 10;", 2, 5);
+        Check.good("m1 2 1;", 0);
+        Check.good("m5 9 9;", 0);
+        Check.good("m005 009 009;", 0);
+        Check.bad("m0 2 1;", 2, 1);
+        Check.bad("m6 2 1;", 2, 1);
+        Check.bad("m1 1 1;", 2, 3);
+        Check.bad("m1 10 1;", 2, 3);
+        Check.bad("m1 2 0;", 2, 5);
+        Check.bad("m1 2 10;", 2, 5);
         String m = "m1 2 1;";
-        good(m + "p0 0 " + Z + ";", 1);
-        good(m + "p60 99 " + Z + ";", 1);
-        bad(m + "p61 0 " + Z + ";", 2, 8);
-        bad(m + "p0 100 " + Z + ";", 2, 10);
-        good(m + "c2;c60;", 0);
-        bad(m + "c1;", 2, 8);
-        bad(m + "c61;", 2, 8);
+        Check.good(m + "p0 0 " + Z + ";", 1);
+        Check.good(m + "p60 99 " + Z + ";", 1);
+        Check.bad(m + "p61 0 " + Z + ";", 2, 8);
+        Check.bad(m + "p0 100 " + Z + ";", 2, 10);
+        Check.good(m + "c2;c60;", 0);
+        Check.bad(m + "c1;", 2, 8);
+        Check.bad(m + "c61;", 2, 8);
         String p = m + "p0 0 " + Z + ";";
-        good(p + "d0 0 1;d0 71 99;", 1);
-        bad(p + "d1 0 1;", 2, 38);
-        bad(p + "d0 72 1;", 2, 40);
-        bad(p + "d0 0 0;", 2, 42);
-        bad(p + "d0 0 100;", 2, 42);
-        good(p + "u0 1;", 1);
-        good(p + "u0 20;", 1);
-        bad(p + "u1 1;", 2, 38);
-        bad(p + "u0 0;", 2, 40);
-        bad(p + "u0 21;", 2, 40);
+        Check.good(p + "d0 0 1;d0 71 99;", 1);
+        Check.bad(p + "d1 0 1;", 2, 38);
+        Check.bad(p + "d0 72 1;", 2, 40);
+        Check.bad(p + "d0 0 0;", 2, 42);
+        Check.bad(p + "d0 0 100;", 2, 42);
+        Check.good(p + "u0 1;", 1);
+        Check.good(p + "u0 20;", 1);
+        Check.bad(p + "u1 1;", 2, 38);
+        Check.bad(p + "u0 0;", 2, 40);
+        Check.bad(p + "u0 21;", 2, 40);
     }
 
     private static void blanks() {
-        good("  m 1  2 1 ; p 0 0zzzzzzzzzzzzwwwwww......; c 2 ; ", 1);
-        good("m1 2 1;p0 0z z z z z z z z z z z z z z z z z z z z z z z z;", 1);
-        bad("m1 2\t1;", 1, 4);
-        bad("m1 2 1 1;", 1, 7);
-        bad("m1 21;", 2, 3);
-        bad("m1 2;", 1, 4);
+        Check.good("  m 1  2 1 ; p 0 0zzzzzzzzzzzzwwwwww......; c 2 ; ", 1);
+        Check.good("m1 2 1;p0 0z z z z z z z z z z z z z z z z z z z z z z z z;", 1);
+        Check.bad("m1 2\t1;", 1, 4);
+        Check.bad("m1 2 1 1;", 1, 7);
+        Check.bad("m1 21;", 2, 3);
+        Check.bad("m1 2;", 1, 4);
     }
 
     private static void misplaced() {
-        bad("c5;", 1, 0);
-        bad("x", 1, 0);
-        bad(";", 1, 0);
-        bad(" p", 1, 1);
-        bad("m", 1, 1);
-        bad("m  ", 1, 3);
-        bad("m1 2 1", 1, 6);
-        bad("m1 2 1;;", 1, 7);
-        bad("m1 2 1;y", 1, 7);
-        bad("m1 2 1;M", 1, 7);
-        bad("mx", 1, 1);
-        bad("m1 2 1;p0 0 zz x", 1, 15);
-        bad("m1 2 1;p0 0 zzzz;", 1, 16);
-        bad("m1 2 1;p0 0 zzzz", 1, 16);
-        bad("m1 2 1;p0 0 " + Z + "z;", 1, 36);
-        bad("m1 2 1;p0 0 " + Z, 1, 36);
-        bad("m1 2 1;c5 6;", 1, 10);
-        bad("m1 2 1;p0 " + Z + ";", 1, 10);
-        bad("m1 2 1;" + (char) 233, 1, 7);
+        Check.bad("c5;", 1, 0);
+        Check.bad("x", 1, 0);
+        Check.bad(";", 1, 0);
+        Check.bad(" p", 1, 1);
+        Check.bad("m", 1, 1);
+        Check.bad("m  ", 1, 3);
+        Check.bad("m1 2 1", 1, 6);
+        Check.bad("m1 2 1;;", 1, 7);
+        Check.bad("m1 2 1;y", 1, 7);
+        Check.bad("m1 2 1;M", 1, 7);
+        Check.bad("mx", 1, 1);
+        Check.bad("m1 2 1;p0 0 zz x", 1, 15);
+        Check.bad("m1 2 1;p0 0 zzzz;", 1, 16);
+        Check.bad("m1 2 1;p0 0 zzzz", 1, 16);
+        Check.bad("m1 2 1;p0 0 " + Z + "z;", 1, 36);
+        Check.bad("m1 2 1;p0 0 " + Z, 1, 36);
+        Check.bad("m1 2 1;c5 6;", 1, 10);
+        Check.bad("m1 2 1;p0 " + Z + ";", 1, 10);
+        Check.bad("m1 2 1;" + (char) 233, 1, 7);
     }
 
     private static void badNumbers() {
-        bad("m1234 2 1;", 2, 1);
-        bad("m0001 2 1;", 2, 1);
-        bad("m1 2 1;p0001 0 " + Z + ";", 2, 8);
-        bad("m1 2 1;p0 0000 " + Z + ";", 2, 10);
-        bad("m1 2 1;c99999999999999;", 2, 8);
-        bad("m1 2 1;c4294967298;", 2, 8);
-        bad("m1 2 1;d0 0 1;", 2, 8);
-        bad("m1 2 1;u0 1;", 2, 8);
-        bad("m1 2 1;d999", 2, 8);
+        Check.bad("m1234 2 1;", 2, 1);
+        Check.bad("m0001 2 1;", 2, 1);
+        Check.bad("m1 2 1;p0001 0 " + Z + ";", 2, 8);
+        Check.bad("m1 2 1;p0 0000 " + Z + ";", 2, 10);
+        Check.bad("m1 2 1;c99999999999999;", 2, 8);
+        Check.bad("m1 2 1;c4294967298;", 2, 8);
+        Check.bad("m1 2 1;d0 0 1;", 2, 8);
+        Check.bad("m1 2 1;u0 1;", 2, 8);
+        Check.bad("m1 2 1;d999", 2, 8);
     }
 
     private static void tooMany() {
         String one = "p0 0 " + Z + ";";
         String m = "m1 2 1;";
-        bad(m + "m", 3, 7);
-        good(m + one + one + one + one + one, 5);
-        bad(m + one + one + one + one + one + "p", 3, 7 + 5 * one.length());
-        good(m + "c2;c3;c4;c5;", 0);
-        bad(m + "c2;c3;c4;c5;c", 3, 19);
+        Check.bad(m + "m", 3, 7);
+        Check.good(m + one + one + one + one + one, 5);
+        Check.bad(m + one + one + one + one + one + "p", 3, 7 + 5 * one.length());
+        Check.good(m + "c2;c3;c4;c5;", 0);
+        Check.bad(m + "c2;c3;c4;c5;c", 3, 19);
         String debts = "d0 0 1;d0 0 1;d0 0 1;d0 0 1;d0 0 1;d0 0 1;d0 0 1;d0 0 1;";
-        good(m + one + debts, 1);
-        bad(m + one + debts + "d", 3, 7 + one.length() + debts.length());
+        Check.good(m + one + debts, 1);
+        Check.bad(m + one + debts + "d", 3, 7 + one.length() + debts.length());
     }
 
     private static void toldAgain() {
         String p = "m1 2 1;p0 0 " + Z + ";p0 0 " + Z + ";";
-        bad("m1 2 1;c5;c5;", 4, 11);
-        bad("m1 2 1;c5;c005;", 4, 11);
-        bad("m1 2 1;c5;c5x", 4, 11);
-        good(p + "u0 1;u1 1;", 2);
-        bad(p + "u0 1;u0", 4, p.length() + 6);
-        bad(p + "u1 1;u 1 99;", 4, p.length() + 7);
+        Check.bad("m1 2 1;c5;c5;", 4, 11);
+        Check.bad("m1 2 1;c5;c005;", 4, 11);
+        Check.bad("m1 2 1;c5;c5x", 4, 11);
+        Check.good(p + "u0 1;u1 1;", 2);
+        Check.bad(p + "u0 1;u0", 4, p.length() + 6);
+        Check.bad(p + "u1 1;u 1 99;", 4, p.length() + 7);
     }
 
     private static void firstFaultCounts() {
-        bad("m9 9x", 2, 1);
-        bad("m1 2 1;c61 x", 2, 8);
-        bad("m1 2 1;p0 0 zxx;m", 1, 13);
-        bad("m1 2 1;c5;c0005;", 2, 11);
+        Check.bad("m9 9x", 2, 1);
+        Check.bad("m1 2 1;c61 x", 2, 8);
+        Check.bad("m1 2 1;p0 0 zxx;m", 1, 13);
+        Check.bad("m1 2 1;c5;c0005;", 2, 11);
     }
 
     private static void whatAFaultLeaves() {

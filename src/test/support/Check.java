@@ -7,15 +7,21 @@ final class Check {
 
     private static int calls = 0;
     private static int wrong = 0;
+    private static String sentence = "";
 
     private Check() {
+    }
+
+    /** The sentence of the document that is looked at from here on; it is printed with what is not as due. */
+    static void says(String words) {
+        sentence = "[" + words + "] ";
     }
 
     static void due(String call, long got, long want) {
         calls++;
         if (got == want) return;
         wrong++;
-        System.out.println(call + " answered " + got + ", due is " + want);
+        System.out.println(sentence + call + " answered " + got + ", due is " + want);
     }
 
     static int wrongSoFar() {
@@ -38,6 +44,21 @@ final class Check {
         int people = tell(x, text);
         if (people < 0) due("capital() of " + text, people, 0);
         return x;
+    }
+
+    /** A text without a fault, told to a new object. */
+    static SleepMint good(String text, int people) {
+        SleepMint x = new SleepMint();
+        due("capital() of '" + text + "'", tell(x, text), people);
+        due("fault() of '" + text + "'", x.fault(), NONE);
+        return x;
+    }
+
+    /** A text whose first fault is of that kind and stands at that letter. */
+    static void bad(String text, int kind, int place) {
+        SleepMint x = new SleepMint();
+        due("capital() of '" + text + "'", tell(x, text), -10 - kind);
+        due("fault() of '" + text + "'", x.fault(), place);
     }
 
     static void end() {
