@@ -22,6 +22,7 @@ public final class FaceTest {
         lookAtConstructors();
         lookAtNames();
         lookAtSource();
+        lookAtWhatTheInterfaceSays();
         Check.end();
     }
 
@@ -96,6 +97,23 @@ public final class FaceTest {
         }
         for (int i = 0; i < source.length(); i++) {
             if (source.charAt(i) > 126) Check.due("sign " + i + " of the source", source.charAt(i), 126);
+        }
+    }
+
+    /** The document's calls in its order, and what it says that the interface says ahead of them. */
+    private static void lookAtWhatTheInterfaceSays() throws Exception {
+        String[] said = {"// ---- the capital", "feed", "capital", "fault", "told", "person", "row", "coin", "debt",
+            "// ---- what is done", "hour", "drift", "give", "change",
+            "// ---- tried", "firstShort", "richest", "life", "shift", "coins", "strike", "isFalse", "prices", "robbed", "run",
+            "// ---- books, images", "write", "tear", "judge", "seed", "keep", "goBack"};
+        String source = Files.readString(Path.of("src/main/java/SleepMint.java"));
+        int before = source.indexOf("public SleepMint()");
+        for (String words : said) {
+            String wanted = words.startsWith("//") ? words + "\n" : "public int " + words + "(";
+            int at = source.indexOf(wanted);
+            Check.due("'" + wanted.trim() + "' stands behind what comes ahead of it", at > before ? 1 : 0, 1);
+            Check.due("'" + wanted.trim() + "' stands once", source.indexOf(wanted, at + 1), -1);
+            before = at;
         }
     }
 }
